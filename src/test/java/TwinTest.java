@@ -17,7 +17,42 @@ public final class TwinTest {
         }
         compareFame(desk, model);
         compareOrder(desk, model);
+        goOn(desk, model);
+        compareFame(desk, model);
+        compareOrder(desk, model);
+        dueTwinReceived(desk, TwinRun.FIRST_TWIN);
+        dueTwinReceived(desk, TwinRun.SECOND_TWIN);
         check.finish();
+    }
+
+    /** The honest six speak on. */
+    private static void goOn(HashgraphDesk desk, Model model) {
+        int[] last = new int[6];
+        for (int x = 0; x < desk.count(1); x++) {
+            if (desk.event(x, 0) < 6) {
+                last[desk.event(x, 0)] = x;
+            }
+        }
+        for (int step = TwinRun.INJECTED.length; desk.count(1) < 240; step++) {
+            int creator = step % 6;
+            int other = last[(step + 5) % 6];
+            int made = desk.inject(TwinRun.HOLDER, creator, last[creator], other, TwinRun.timeOf(step));
+            check.due("inject", made,
+                    model.inject(TwinRun.HOLDER, creator, last[creator], other, TwinRun.timeOf(step)));
+            last[creator] = made;
+        }
+    }
+
+    /** The unique ones that receive it have it as an ancestor and see nothing of its creator, for they know both. */
+    private static void dueTwinReceived(HashgraphDesk desk, int twin) {
+        int round = desk.found(TwinRun.HOLDER, twin, 2);
+        check.isTrue("twin " + twin + " is received", round > 0);
+        int unseeing = 0;
+        for (int u = 0; u < desk.count(1); u++) {
+            boolean isUnique = desk.event(u, 3) == round && desk.found(TwinRun.HOLDER, u, 1) == 3;
+            unseeing += isUnique && !desk.sees(u, twin, false) ? 1 : 0;
+        }
+        check.isTrue("twin " + twin + " is not seen by those that receive it", unseeing > 0);
     }
 
     private static void compareFame(HashgraphDesk desk, Model model) {
