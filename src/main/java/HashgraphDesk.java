@@ -299,13 +299,25 @@ public final class HashgraphDesk {
             putOctet(0x80);
             message[2 * BLOCK_WORDS - 1] = bits;
             System.arraycopy(FIRST_STATE, 0, state, 0, HASH_WORDS);
-            mixBlock(0);
-            mixBlock(BLOCK_WORDS);
+            fillSchedule(0);
+            mixSchedule();
+            fillSchedule(BLOCK_WORDS);
+            mixSchedule();
             System.arraycopy(state, 0, hashes, offset, HASH_WORDS);
         }
 
-        private void mixBlock(int start) {
-            fillSchedule(start);
+        private void fillSchedule(int start) {
+            System.arraycopy(message, start, schedule, 0, BLOCK_WORDS);
+            for (int i = BLOCK_WORDS; i < 64; i++) {
+                int early = schedule[i - 15];
+                int late = schedule[i - 2];
+                int fromEarly = turned(early, 7) ^ turned(early, 18) ^ (early >>> 3);
+                int fromLate = turned(late, 17) ^ turned(late, 19) ^ (late >>> 10);
+                schedule[i] = schedule[i - 16] + fromEarly + schedule[i - 7] + fromLate;
+            }
+        }
+
+        private void mixSchedule() {
             int a = state[0];
             int b = state[1];
             int c = state[2];
@@ -337,17 +349,6 @@ public final class HashgraphDesk {
             state[5] += f;
             state[6] += g;
             state[7] += h;
-        }
-
-        private void fillSchedule(int start) {
-            System.arraycopy(message, start, schedule, 0, BLOCK_WORDS);
-            for (int i = BLOCK_WORDS; i < 64; i++) {
-                int early = schedule[i - 15];
-                int late = schedule[i - 2];
-                int fromEarly = turned(early, 7) ^ turned(early, 18) ^ (early >>> 3);
-                int fromLate = turned(late, 17) ^ turned(late, 19) ^ (late >>> 10);
-                schedule[i] = schedule[i - 16] + fromEarly + schedule[i - 7] + fromLate;
-            }
         }
 
         private static int turned(int word, int places) {
