@@ -23,6 +23,22 @@ final class Check {
         due(what, holds, true);
     }
 
+    /** Two texts of many lines: tells the first line in which they differ. */
+    void alike(String what, String got, String want) {
+        if (got.equals(want)) {
+            right++;
+            return;
+        }
+        String[] gotLines = got.split("\n");
+        String[] wantLines = want.split("\n");
+        int line = 0;
+        while (line < gotLines.length && line < wantLines.length && gotLines[line].equals(wantLines[line])) {
+            line++;
+        }
+        fail(what + ": got " + (line < gotLines.length ? gotLines[line] : "no more") + ", due is "
+                + (line < wantLines.length ? wantLines[line] : "no more"));
+    }
+
     void illegalArgument(String call, Call made) {
         throwing(call, made, IllegalArgumentException.class);
     }

@@ -27,38 +27,27 @@ public final class DeciderTest {
     }
 
     private static void go(int run) {
-        HashgraphDesk desk = new HashgraphDesk();
-        desk.begin(NODES);
-        Model model = new Model(NODES);
+        Both both = new Both(check, "run " + run, NODES);
         for (int k = 0; k < 90; k++) {
             boolean isWithNode0 = random(8) == 0;
             int from = isWithNode0 ? 0 : 1 + random(NODES - 1);
             int to = isWithNode0 ? 1 + random(NODES - 1) : 1 + (from + random(NODES - 2)) % (NODES - 1);
-            check.due("sync", desk.sync(from, to, k), model.sync(from, to, k));
+            both.sync(from, to, k);
         }
         for (int from = 1; from < NODES; from++) {
-            check.due("sync", desk.sync(from, 0, 90), model.sync(from, 0, 90));
+            both.sync(from, 0, 90);
         }
-        compareFame(run, desk, model);
+        both.compareNode(0);
         int[] last = {0, 1, 2, 3, 4};
         for (int k = 0; k < 60; k++) {
             int creator = 1 + k % 4;
-            int other = last[1 + (k + 3) % 4];
-            int made = desk.inject(0, creator, last[creator], other, 100 + k);
-            check.due("inject", made, model.inject(0, creator, last[creator], other, 100 + k));
-            last[creator] = made;
+            last[creator] = both.inject(0, creator, last[creator], last[1 + (k + 3) % 4], 100 + k);
         }
-        compareFame(run, desk, model);
-        noteContradiction(desk);
+        both.compareNode(0);
+        noteContradiction(both.desk);
     }
 
-    private static void compareFame(int run, HashgraphDesk desk, Model model) {
-        for (Model.Event x : model.events) {
-            check.due("run " + run + ": found(0, " + x.number + ", 1)", desk.found(0, x.number, 1), model.fame(0, x));
-        }
-    }
-
-    private static void noteContradiction(HashgraphDesk desk) {
+    private static void noteContradiction(Desk desk) {
         int first = -1;
         int ofLeastRound = -1;
         for (int y = 0; y < desk.count(1); y++) {

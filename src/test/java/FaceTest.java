@@ -40,8 +40,8 @@ public final class FaceTest {
             check.isTrue("field " + field.getName() + " is private", Modifier.isPrivate(field.getModifiers()));
         }
         for (Class<?> inside : face.getDeclaredClasses()) {
-            check.isTrue("class " + inside.getSimpleName() + " is static and not public",
-                    Modifier.isStatic(inside.getModifiers()) && !Modifier.isPublic(inside.getModifiers()));
+            check.isTrue("class " + inside.getSimpleName() + " is private or package-visible",
+                    !Modifier.isPublic(inside.getModifiers()) && !Modifier.isProtected(inside.getModifiers()));
         }
         check.finish();
     }

@@ -364,6 +364,12 @@ final class Model {
         }
 
         private long stampOf(Event x, List<Event> uniques) {
+            List<Long> times = timesOf(x, uniques);
+            return times.get(times.size() / 2);
+        }
+
+        /** When each of the unique ones' lives came to know x, rising. */
+        List<Long> timesOf(Event x, List<Event> uniques) {
             List<Long> times = new ArrayList<>();
             for (Event u : uniques) {
                 Event last = u;
@@ -373,7 +379,7 @@ final class Model {
                 times.add(last.time);
             }
             Collections.sort(times);
-            return times.get(times.size() / 2);
+            return times;
         }
 
         private BigInteger turnedHash(Event x) {

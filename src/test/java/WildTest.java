@@ -1,9 +1,9 @@
 /** Any arguments in any state: nothing but what the document names is thrown, and what throws changes nothing. */
 public final class WildTest {
-    private static final int RUNS = 400;
-    private static final int CALLS = 512;
+    private static final int RUNS = 100;
+    private static final int CALLS = 400;
     private static final int KINDS = 14;
-    private static final int[] EDGES = {Integer.MIN_VALUE, -2, -1, 0, 1, 2, 3, 7, 8, 9, 239, 240, 999999, 1000000,
+    private static final int[] WILD = {Integer.MIN_VALUE, -2, -1, 0, 1, 2, 3, 7, 8, 9, 239, 240, 999999, 1000000,
         1000001, Integer.MAX_VALUE};
 
     private static final Class<?> ARGUMENT = IllegalArgumentException.class;
@@ -19,12 +19,12 @@ public final class WildTest {
 
     public static void main(String[] args) {
         for (int run = 0; run < RUNS; run++) {
-            HashgraphDesk desk = new HashgraphDesk();
+            Desk desk = new Desk();
             for (int call = 0; call < CALLS; call++) {
                 // Most of the calls of most runs are syncs, so that the runs come to rounds, orders and 240 events.
                 int kind = random(run % 4 + 2) == 0 ? random(KINDS) : 2;
                 if (kind != 0 || random(20) == 0) {
-                    callOnce(desk, kind, "run " + run + ", call " + call + ": kind " + kind, random(50) == 0);
+                    callOnce(desk, kind, "run " + run + ", call " + call + ": kind " + kind, random(200) == 0);
                 }
             }
         }
@@ -37,10 +37,10 @@ public final class WildTest {
     }
 
     private static int wild(int usual) {
-        return random(12) == 0 ? EDGES[random(EDGES.length)] : random(usual);
+        return random(12) == 0 ? WILD[random(WILD.length)] : random(usual);
     }
 
-    private static void callOnce(HashgraphDesk desk, int kind, String call, boolean compares) {
+    private static void callOnce(Desk desk, int kind, String call, boolean compares) {
         int node = wild(desk.count(0));
         int another = wild(desk.count(0));
         int x = wild(desk.count(1));
@@ -60,7 +60,7 @@ public final class WildTest {
         }
     }
 
-    private static long make(HashgraphDesk desk, int kind, int[] a) {
+    private static long make(Desk desk, int kind, int[] a) {
         switch (kind) {
             case 0:
                 desk.begin(a[4]);
