@@ -8,7 +8,7 @@ public final class AlikeTest {
     private static final int HOLDER = 7;
 
     private static final Check check = new Check();
-    private static final Both both = new Both(check, "alike", NODES);
+    private static final Both both = new Both(check, "promise 12, alike", NODES);
 
     public static void main(String[] args) {
         for (int from = 0; from < HOLDER; from++) {
@@ -32,12 +32,13 @@ public final class AlikeTest {
     private static void compare(int injected, int made) {
         Desk desk = both.desk;
         for (int word = 0; word < 8; word++) {
-            check.due("hash word " + word, desk.hash(made, word), desk.hash(injected, word));
+            check.due("promise 7: hash word " + word, desk.hash(made, word), desk.hash(injected, word));
         }
-        check.isTrue("both are received", desk.found(HOLDER, made, 2) > 0);
-        check.due("in one round", desk.found(HOLDER, made, 2), desk.found(HOLDER, injected, 2));
-        check.due("with one stamp", desk.stamp(HOLDER, made), desk.stamp(HOLDER, injected));
-        check.due("the lesser number first", desk.found(HOLDER, made, 3), desk.found(HOLDER, injected, 3) + 1);
+        check.isTrue("promise 10: both are received", desk.found(HOLDER, made, 2) > 0);
+        check.due("promise 10: in one round", desk.found(HOLDER, made, 2), desk.found(HOLDER, injected, 2));
+        check.due("promise 11: with one stamp", desk.stamp(HOLDER, made), desk.stamp(HOLDER, injected));
+        check.due("promise 12: the lesser number first", desk.found(HOLDER, made, 3),
+                desk.found(HOLDER, injected, 3) + 1);
         both.compareNode(HOLDER);
     }
 }

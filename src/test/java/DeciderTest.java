@@ -27,7 +27,7 @@ public final class DeciderTest {
     }
 
     private static void go(int run) {
-        Both both = new Both(check, "run " + run, NODES);
+        Both both = new Both(check, "promise 10, run " + run, NODES);
         for (int k = 0; k < 90; k++) {
             boolean isWithNode0 = random(8) == 0;
             int from = isWithNode0 ? 0 : 1 + random(NODES - 1);
@@ -59,7 +59,7 @@ public final class DeciderTest {
         }
         if (first >= 0 && desk.vote(first, LATE) != desk.vote(ofLeastRound, LATE)) {
             contradictions++;
-            check.due("it is decided by the least round", desk.found(0, LATE, 1),
+            check.due("promise 10: it is decided by the least round", desk.found(0, LATE, 1),
                     desk.vote(ofLeastRound, LATE) == 3 ? 3 : 1);
         }
     }

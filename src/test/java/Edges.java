@@ -1,8 +1,8 @@
 import java.util.Arrays;
 
 /**
- * Numbers that a range leaves out: one and two too small or too large, far off, and those that would fall into the range
- * if they wrapped around: cut to fewer bits, or multiplied by 3, 4 or 8 as the index of a row.
+ * Numbers that a range leaves out: one and two too small or too large, far off, and those that would fall into the
+ * range if they wrapped around: cut to fewer bits, or multiplied by 3, 4 or 8 as the index of a row.
  */
 final class Edges {
     private Edges() {

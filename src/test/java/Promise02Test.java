@@ -13,6 +13,8 @@ public final class Promise02Test {
         anewAfterFullOne();
         anewBetweenFewestAndMost();
         anewMoreThanOnce();
+        nothingFoundBefore();
+        noVotesOfBefore();
         check.finish();
     }
 
@@ -97,5 +99,42 @@ public final class Promise02Test {
             desk.begin(4);
             Runs.makeBusy(desk);
         }, 3);
+    }
+
+    /** Two nodes have found 16 events decided, received and placed, and are asked so; then they know nearly nothing. */
+    private static void nothingFoundBefore() {
+        int[] due = {0, 0, 0, -1};
+        for (int n : new int[] {2, 4, 8}) {
+            Desk desk = Runs.inTurn(20);
+            for (int x = 0; x < 16; x++) {
+                check.isTrue(PROMISE + ": " + x + " has been received", desk.found(0, x, 2) > 0);
+            }
+            check.due(PROMISE + ": there has been an order", desk.order(1), 14);
+            desk.begin(n);
+            for (int k = n; k < 20; k++) {
+                desk.sync(n - 2, n - 1, k);
+            }
+            for (int x = 1; x < 20; x++) {
+                for (int what = 0; what < 4; what++) {
+                    check.due(PROMISE + ": of " + n + " found(0, " + x + ", " + what + ")", desk.found(0, x, what),
+                            due[what]);
+                }
+            }
+            check.due(PROMISE + ": no order", desk.order(0) + desk.order(1), 0);
+            check.due(PROMISE + ": no settled rounds", desk.count(4), 0);
+        }
+    }
+
+    /** All votes have been yes; then there are forks, and events of the same numbers that vote no. */
+    private static void noVotesOfBefore() {
+        for (int n = 2; n <= 4; n++) {
+            String name = PROMISE + ", a second life of " + n;
+            Both both = new Both(check, name, n, Runs.inTurn(150));
+            Gossip gossip = new Gossip(check, name, Gossip.MANY_FORKS, 5, 80, both);
+            while (!gossip.isOver()) {
+                gossip.goOn();
+            }
+            both.compareAll();
+        }
     }
 }

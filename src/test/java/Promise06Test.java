@@ -10,6 +10,7 @@ public final class Promise06Test {
         transactionsFromNoneToThree();
         holdersFromOneToAll();
         ancestorsFromOneToAll();
+        ancestorsThoughNotSeen();
         firstAndLastEvent();
         refused();
         check.finish();
@@ -73,6 +74,17 @@ public final class Promise06Test {
         }
         check.due(PROMISE + ": witness of the greatest round", desk.event(239, 4), 1);
         check.due(PROMISE + ": the greatest round", desk.event(239, 3), 120);
+    }
+
+    /** Those of a forker are ancestors, too. */
+    private static void ancestorsThoughNotSeen() {
+        Desk desk = Runs.forked();
+        int overLeft = desk.inject(2, 1, 1, Runs.LEFT, 3);
+        check.due(PROMISE + ": above one side", desk.event(overLeft, 7), 4);
+        int overBoth = desk.inject(2, 1, overLeft, Runs.RIGHT, 4);
+        check.due(PROMISE + ": above both sides", desk.event(overBoth, 7), 6);
+        check.isTrue(PROMISE + ": of which three are not seen", !desk.sees(overBoth, 0, false)
+                && !desk.sees(overBoth, Runs.LEFT, false) && !desk.sees(overBoth, Runs.RIGHT, false));
     }
 
     private static void firstAndLastEvent() {

@@ -10,6 +10,7 @@ public final class Promise08Test {
         forkOfItsOwn();
         stronglyThroughThree();
         stronglyThoughNotSeen();
+        notStronglyThroughThoseWhoDoNotSee();
         firstAndLastEvent();
         refused();
         check.finish();
@@ -31,7 +32,7 @@ public final class Promise08Test {
         check.due(PROMISE + ": sees(" + x + ", " + y + ", false)", desk.sees(x, y, false), isSeen);
     }
 
-    /** Events 5 and 6 are two children of event 0, 7 is one of 5. One side of a fork is seen, both sides hide it all. */
+    /** Two children of event 0 and one of theirs. One side of a fork is seen, both sides hide it all. */
     private static void noneWithAForkBelow() {
         Desk desk = new Desk(4);
         desk.sync(0, 1, 1);
@@ -58,14 +59,10 @@ public final class Promise08Test {
 
     /** One who knows of its own fork does not see itself, nor its past. */
     private static void forkOfItsOwn() {
-        Desk desk = new Desk(3);
-        desk.sync(0, 2, 1);
-        desk.sync(1, 2, 2);
-        int left = desk.inject(2, 0, 0, -1, 5);
-        int right = desk.inject(2, 0, 0, -1, 6);
-        int heard = desk.inject(2, 1, 1, left, 7);
-        int own = desk.inject(2, 0, right, heard, 8);
-        for (int hidden : new int[] {own, right, left, 0}) {
+        Desk desk = Runs.forked();
+        int heard = desk.inject(2, 1, 1, Runs.LEFT, 7);
+        int own = desk.inject(2, 0, Runs.RIGHT, heard, 8);
+        for (int hidden : new int[] {own, Runs.RIGHT, Runs.LEFT, 0}) {
             dueSeen(desk, own, hidden, false);
         }
         dueSeen(desk, own, heard, true);
@@ -114,6 +111,27 @@ public final class Promise08Test {
         int overAll = desk.inject(6, 5, told[5], overBoth, 35);
         dueSeen(desk, overAll, 0, false);
         dueStrong(desk, overAll, 0, true);
+    }
+
+    /** The other way round: five of seven nodes know of event 0 and of both children of it, so none of them sees it. */
+    private static void notStronglyThroughThoseWhoDoNotSee() {
+        Desk desk = new Desk(7);
+        for (int node = 0; node < 6; node++) {
+            desk.sync(node, 6, node);
+        }
+        int left = desk.inject(6, 0, 0, -1, 30);
+        int right = desk.inject(6, 0, 0, -1, 31);
+        int overLeft = desk.inject(6, 1, 1, left, 32);
+        int last = desk.inject(6, 1, overLeft, right, 33);
+        for (int node = 2; node < 6; node++) {
+            last = desk.inject(6, node, node, last, 34);
+        }
+        dueStrong(desk, last, overLeft, true);
+        dueStrong(desk, last, 1, true);
+        for (int hidden : new int[] {0, left, right}) {
+            dueSeen(desk, last, hidden, false);
+            dueStrong(desk, last, hidden, false);
+        }
     }
 
     private static void firstAndLastEvent() {

@@ -9,6 +9,7 @@ public final class Promise13Test {
         eachOnce();
         noneInAnEmptyOne();
         notThatOfAnother();
+        askedAgainAndAgain();
         refusedNodes();
         refusedPlaces();
         nodesBeforePlaces();
@@ -52,6 +53,21 @@ public final class Promise13Test {
         check.due(PROMISE + ": at(0, 5)", desk.at(0, 5), 5);
         check.due(PROMISE + ": at(1, 3)", desk.at(1, 3), 3);
         check.outOfBounds(PROMISE + ": at(1, 4), though at(0, 4) is there", () -> desk.at(1, 4));
+    }
+
+    /** With one time for all the hashes tell the order: after each event it is found anew, and is the same. */
+    private static void askedAgainAndAgain() {
+        Both both = new Both(check, PROMISE, 2);
+        for (int k = 2; k < 20; k++) {
+            both.sync(k % 2, 1 - k % 2, 7);
+            for (int node = 0; node < 2; node++) {
+                Model.Finding finding = both.model.new Finding(node);
+                for (int place = 0; place < finding.order.size(); place++) {
+                    check.due(PROMISE + ": at(" + node + ", " + place + ")", both.desk.at(node, place),
+                            finding.order.get(place).number);
+                }
+            }
+        }
     }
 
     private static void makeSome(Desk desk) {

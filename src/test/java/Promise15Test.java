@@ -1,4 +1,4 @@
-/** Promise 15: count() tells how many nodes, events, rounds, forks, settled rounds and waiting transactions there are. */
+/** Promise 15: count() tells how many nodes, events, rounds, forks, settled rounds and waiting transactions are. */
 public final class Promise15Test {
     private static final String PROMISE = "promise 15";
 
@@ -73,6 +73,9 @@ public final class Promise15Test {
         due(injected, 2, 1);
         check.due(PROMISE + ": injected in round 2", injected.event(injected.inject(1, 0, 0, 2, 5), 3), 2);
         due(injected, 2, 2);
+        Desk behind = Runs.inTurn(12);
+        check.due(PROMISE + ": the last event is of round 1", behind.event(behind.inject(1, 0, 0, -1, 5), 3), 1);
+        due(behind, 2, 6);
     }
 
     private static void forks() {

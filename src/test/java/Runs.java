@@ -1,6 +1,8 @@
 /** Runs that several tests go through. */
 final class Runs {
     static final int MOST_EVENTS = 240;
+    static final int LEFT = 5;
+    static final int RIGHT = 6;
 
     private Runs() {
     }
@@ -38,6 +40,16 @@ final class Runs {
         for (int k = 0; k < 60; k++) {
             desk.sync(turn[k % 3], turn[(k + 1) % 3], k);
         }
+        return desk;
+    }
+
+    /** Three nodes: node 2 has heard of 0 and 1 and holds a fork, two children of event 0. */
+    static Desk forked() {
+        Desk desk = new Desk(3);
+        desk.sync(0, 2, 1);
+        desk.sync(1, 2, 1);
+        desk.inject(2, 0, 0, -1, 1);
+        desk.inject(2, 0, 0, -1, 2);
         return desk;
     }
 

@@ -100,7 +100,8 @@ public final class Term1Test {
     }
 
     /** Transactions: to, amount, to, amount .. The octets are put as the document lists them. */
-    private static void dueHash(Desk desk, int x, int creator, int[] self, int[] other, long time, int... transactions) {
+    private static void dueHash(Desk desk, int x, int creator, int[] self, int[] other, long time,
+            int... transactions) {
         ByteArrayOutputStream octets = new ByteArrayOutputStream();
         octets.write(creator);
         putWords(octets, self);

@@ -7,11 +7,11 @@ public final class Term2Test {
     private static final String TERM = "term 2 (promises 6, 8, 9 and 15)";
 
     /** Nodes, style and seed of gossip in which the rarer votes come up. */
-    private static final int[][] VOTED = {{2, Gossip.MANY_FORKS, 1}, {3, Gossip.TWO_HALVES, 1}, {4, Gossip.TWO_HALVES, 3},
-        {5, Gossip.TWO_HALVES, 49}, {5, Gossip.TWO_HALVES, 22}, {5, Gossip.TWO_HALVES, 11}, {5, Gossip.TWO_HALVES, 9},
-        {5, Gossip.HONEST, 6}, {6, Gossip.HONEST, 1}, {6, Gossip.HONEST, 4}, {6, Gossip.ONE_SELDOM, 17},
-        {6, Gossip.TWO_HALVES, 24}, {7, Gossip.HONEST, 1}, {7, Gossip.HONEST, 18}, {7, Gossip.MANY_FORKS, 2},
-        {8, Gossip.HONEST, 15}, {8, Gossip.HONEST, 19}, {8, Gossip.TWO_HALVES, 10}};
+    private static final int[][] VOTED = {{2, Gossip.MANY_FORKS, 1}, {3, Gossip.TWO_HALVES, 1},
+        {4, Gossip.TWO_HALVES, 3}, {5, Gossip.TWO_HALVES, 49}, {5, Gossip.TWO_HALVES, 22}, {5, Gossip.TWO_HALVES, 11},
+        {5, Gossip.TWO_HALVES, 9}, {5, Gossip.HONEST, 6}, {6, Gossip.HONEST, 1}, {6, Gossip.HONEST, 4},
+        {6, Gossip.ONE_SELDOM, 17}, {6, Gossip.TWO_HALVES, 24}, {7, Gossip.HONEST, 1}, {7, Gossip.HONEST, 18},
+        {7, Gossip.MANY_FORKS, 2}, {8, Gossip.HONEST, 15}, {8, Gossip.HONEST, 19}, {8, Gossip.TWO_HALVES, 10}};
 
     private static final Check check = new Check();
     private static final List<Ballot> ballots = new ArrayList<>();
@@ -65,38 +65,29 @@ public final class Term2Test {
     }
 
     private static void forksAmongMany() {
-        Desk desk = new Desk(3);
-        desk.sync(0, 2, 1);
-        desk.sync(1, 2, 1);
-        int left = desk.inject(2, 0, 0, -1, 1);
-        check.due(TERM + ": one child", desk.count(3), 0);
-        desk.inject(2, 0, 0, -1, 2);
+        Desk desk = Runs.forked();
         check.due(TERM + ": two children", desk.count(3), 1);
-        desk.inject(2, 0, left, -1, 3);
+        desk.inject(2, 0, Runs.LEFT, -1, 3);
         check.due(TERM + ": a grandchild and its parent's twin", desk.count(3), 2);
-        desk.inject(2, 1, 1, left, 4);
+        desk.inject(2, 1, 1, Runs.LEFT, 4);
         check.due(TERM + ": other creators make none with these", desk.count(3), 2);
-        desk.inject(2, 1, 1, left, 5);
+        desk.inject(2, 1, 1, Runs.LEFT, 5);
         check.due(TERM + ": but their own", desk.count(3), 3);
     }
 
     /** Both sides below: nothing of the forker, but all of the others; one side, or the fork elsewhere: all. */
     private static void seesNoneOfOneWithBothSides() {
-        Desk desk = new Desk(3);
-        desk.sync(0, 2, 1);
-        desk.sync(1, 2, 1);
-        int left = desk.inject(2, 0, 0, -1, 1);
-        int right = desk.inject(2, 0, 0, -1, 2);
-        int overLeft = desk.inject(2, 1, 1, left, 3);
-        int overBoth = desk.inject(2, 1, overLeft, right, 4);
-        check.isTrue(TERM + ": the one side", desk.sees(overLeft, left, false) && desk.sees(overLeft, 0, false));
-        check.isTrue(TERM + ": not the other", !desk.sees(overLeft, right, false));
-        for (int hidden : new int[] {0, left, right}) {
-            check.isTrue(TERM + ": both sides hide " + hidden, !desk.sees(overBoth, hidden, false));
+        Desk desk = Runs.forked();
+        int overLeft = desk.inject(2, 1, 1, Runs.LEFT, 3);
+        int overBoth = desk.inject(2, 1, overLeft, Runs.RIGHT, 4);
+        int[][] rows = {{Runs.LEFT, 0, 1}, {Runs.LEFT, Runs.LEFT, 1}, {Runs.LEFT, Runs.RIGHT, 0},
+            {Runs.RIGHT, Runs.RIGHT, 1}, {overLeft, 0, 1}, {overLeft, Runs.LEFT, 1}, {overLeft, Runs.RIGHT, 0},
+            {overBoth, 0, 0}, {overBoth, Runs.LEFT, 0}, {overBoth, Runs.RIGHT, 0}, {overBoth, 1, 1},
+            {overBoth, overLeft, 1}, {overBoth, overBoth, 1}};
+        for (int[] row : rows) {
+            check.due(TERM + ": sees(" + row[0] + ", " + row[1] + ", false)", desk.sees(row[0], row[1], false),
+                    row[2] == 1);
         }
-        check.isTrue(TERM + ": not itself", desk.sees(overBoth, overBoth, false));
-        check.isTrue(TERM + ": nor its own", desk.sees(overBoth, 1, false) && desk.sees(overBoth, overLeft, false));
-        check.isTrue(TERM + ": each side sees itself", desk.sees(left, left, false) && desk.sees(right, right, false));
     }
 
     /** After k syncs in a ring the last event sees 0 by the events of k + 1 nodes. */
@@ -220,7 +211,8 @@ public final class Term2Test {
         dueOfAll("there are none", b -> isPlain(b) && b.yes + b.no == 0, b -> b.vote == 1);
         dueOfAll("a coin of none", b -> b.isCoin() && b.yes + b.no == 0, b -> b.vote == (b.isHighBitSet ? 1 : 0));
         dueOfAll("a coin of none that is yes", b -> b.isCoin() && b.yes + b.no == 0 && b.isHighBitSet, Ballot::isYes);
-        dueOfAll("a coin of none that is no", b -> b.isCoin() && b.yes + b.no == 0 && !b.isHighBitSet, b -> !b.isYes());
+        dueOfAll("a coin of none that is no", b -> b.isCoin() && b.yes + b.no == 0 && !b.isHighBitSet,
+                b -> !b.isYes());
     }
 
     /** Of six nodes four are two thirds, and not more. */
@@ -240,14 +232,17 @@ public final class Term2Test {
             int enough = Ballot.tooFew(n) + 1;
             dueOfAll("just enough of " + n + " are yes", b -> b.n == n && isPlain(b) && b.yes == enough,
                     b -> b.vote == 3);
-            dueOfAll("just enough of " + n + " are no", b -> b.n == n && isPlain(b) && b.no == enough, b -> b.vote == 2);
+            dueOfAll("just enough of " + n + " are no", b -> b.n == n && isPlain(b) && b.no == enough,
+                    b -> b.vote == 2);
         }
     }
 
     /** The vote is that of the many though the bit of the hash says the other. */
     private static void coinsThatAreClear() {
-        dueOfAll("a clear yes against the bit", b -> isClearCoin(b) && b.yes > b.no && !b.isHighBitSet, b -> b.vote == 1);
-        dueOfAll("a clear no against the bit", b -> isClearCoin(b) && b.no > b.yes && b.isHighBitSet, b -> b.vote == 0);
+        dueOfAll("a clear yes against the bit", b -> isClearCoin(b) && b.yes > b.no && !b.isHighBitSet,
+                b -> b.vote == 1);
+        dueOfAll("a clear no against the bit", b -> isClearCoin(b) && b.no > b.yes && b.isHighBitSet,
+                b -> b.vote == 0);
         dueOfAll("a coin with just enough", b -> b.isCoin() && most(b) == Ballot.tooFew(b.n) + 1,
                 b -> b.isYes() == b.yes > b.no);
     }

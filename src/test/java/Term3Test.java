@@ -1,13 +1,13 @@
 import java.util.List;
 
-/** Term 3: what a node finds: who is decided, famous and unique, settled rounds, receipt, stamps and the order. */
+/** Term 3, what a node finds: who is decided, famous and unique, settled rounds, receipt, stamps and the order. */
 public final class Term3Test {
     private static final String TERM = "term 3 (promises 10 to 15)";
     private static final int HOLDER = 3;
 
     private static final Check check = new Check();
 
-    /** Nodes 0, 1 and 2 of four, in a life that node 3 makes for them: they speak in a ring, from their first events. */
+    /** Nodes 0, 1 and 2 of four, in a life that node 3 makes for them: a ring that begins with their first events. */
     private static final class Life {
         private final Desk desk;
         private final long time;
@@ -130,7 +130,7 @@ public final class Term3Test {
         dueFame(desk, 0, witness, 3);
     }
 
-    /** One of the same creator and round that is not famous, or not decided, does not count; TwinTest has two famous. */
+    /** One of the same creator and round that is not famous does not count; TwinTest has two that are. */
     private static void uniqueBesideOneThatIsNotFamous() {
         Desk desk = deskOfTheHolder();
         Life first = new Life(desk, 100);

@@ -1,7 +1,7 @@
 /** Promises 10 to 13: two famous witnesses of one creator in a round are not unique. */
 public final class TwinTest {
     private static final Check check = new Check();
-    private static final Both both = new Both(check, "twins", TwinRun.NODES);
+    private static final Both both = new Both(check, "promise 10, twins", TwinRun.NODES);
 
     public static void main(String[] args) {
         for (int from = 0; from < TwinRun.HOLDER; from++) {
@@ -36,12 +36,12 @@ public final class TwinTest {
 
     private static void compare() {
         Desk desk = both.desk;
-        check.due("round of the first twin", desk.event(TwinRun.FIRST_TWIN, 3), 2);
-        check.due("round of the second twin", desk.event(TwinRun.SECOND_TWIN, 3), 2);
-        check.due("fame of the first twin", desk.found(TwinRun.HOLDER, TwinRun.FIRST_TWIN, 1), 2);
-        check.due("fame of the second twin", desk.found(TwinRun.HOLDER, TwinRun.SECOND_TWIN, 1), 2);
-        check.due("fame of it for one who does not hold it", desk.found(0, TwinRun.FIRST_TWIN, 1), 0);
-        check.isTrue("an order is found", desk.order(TwinRun.HOLDER) > 0);
+        check.due("promise 6: round of the first twin", desk.event(TwinRun.FIRST_TWIN, 3), 2);
+        check.due("promise 6: round of the second twin", desk.event(TwinRun.SECOND_TWIN, 3), 2);
+        check.due("promise 10: fame of the first twin", desk.found(TwinRun.HOLDER, TwinRun.FIRST_TWIN, 1), 2);
+        check.due("promise 10: fame of the second twin", desk.found(TwinRun.HOLDER, TwinRun.SECOND_TWIN, 1), 2);
+        check.due("promise 10: fame of it for one who does not hold it", desk.found(0, TwinRun.FIRST_TWIN, 1), 0);
+        check.isTrue("promise 12: an order is found", desk.order(TwinRun.HOLDER) > 0);
         both.compareNode(TwinRun.HOLDER);
     }
 
@@ -49,12 +49,12 @@ public final class TwinTest {
     private static void dueTwinReceived(int twin) {
         Desk desk = both.desk;
         int round = desk.found(TwinRun.HOLDER, twin, 2);
-        check.isTrue("twin " + twin + " is received", round > 0);
+        check.isTrue("promise 10: twin " + twin + " is received", round > 0);
         int unseeing = 0;
         for (int u = 0; u < both.size(); u++) {
             boolean isUnique = desk.event(u, 3) == round && desk.found(TwinRun.HOLDER, u, 1) == 3;
             unseeing += isUnique && !desk.sees(u, twin, false) ? 1 : 0;
         }
-        check.isTrue("twin " + twin + " is not seen by those that receive it", unseeing > 0);
+        check.isTrue("promise 10: twin " + twin + " is not seen by those that receive it", unseeing > 0);
     }
 }
