@@ -7,6 +7,7 @@ public final class Promise09Test {
     public static void main(String[] args) {
         yesByAll();
         noByAll();
+        noOverManyRounds();
         aRoundAboveAndNoLess();
         firstAndLastEvent();
         refusedNumbers();
@@ -44,6 +45,24 @@ public final class Promise09Test {
         for (int distance = 1; distance < some.length; distance++) {
             check.isTrue(PROMISE + ": witnesses " + distance + " rounds on", some[distance] > 0);
         }
+    }
+
+    /** Event 6 is a twin of event 5, of round 3, and nobody's parent: up to 116 rounds on all say no. */
+    private static void noOverManyRounds() {
+        Desk desk = Runs.inTurn(6);
+        check.due(PROMISE + ": the twin", desk.inject(1, 0, 3, 4, 7), 6);
+        check.due(PROMISE + ": its round", desk.event(6, 3), 3);
+        Runs.goOnInTurn(desk, 240);
+        int last = 0;
+        for (int y = 7; y < 240; y++) {
+            int distance = desk.event(y, 3) - 3;
+            if (desk.event(y, 4) == 1 && distance > 0) {
+                boolean decides = distance != 1 && distance % 4 != 0;
+                check.due(PROMISE + ": vote(" + y + ", 6)", desk.vote(y, 6), decides ? 2 : 0);
+                last = Math.max(last, distance);
+            }
+        }
+        check.due(PROMISE + ": rounds above the twin", last, 116);
     }
 
     private static void aRoundAboveAndNoLess() {

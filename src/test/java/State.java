@@ -34,17 +34,24 @@ final class State {
     static String later(Desk desk) {
         StringBuilder text = new StringBuilder();
         int nodes = desk.count(0);
+        // Each node makes three events, into which eight that wait go; then one that joins them, and a fourth event.
+        addSyncs(text, desk, 3 * nodes);
         for (int node = 0; node < nodes; node++) {
             int asked = node;
             add(text, () -> desk.submit(asked, (asked + 1) % nodes, 77));
         }
-        for (int step = 0; step < 2 * nodes; step++) {
+        addSyncs(text, desk, nodes);
+        add(text, () -> desk.inject(0, nodes - 1, nodes - 1, -1, 5));
+        return text.append(of(desk)).toString();
+    }
+
+    private static void addSyncs(StringBuilder text, Desk desk, int syncs) {
+        int nodes = desk.count(0);
+        for (int step = 0; step < syncs; step++) {
             int from = step % nodes;
             long time = 5000 + step;
             add(text, () -> desk.sync(from, (from + 1) % nodes, time));
         }
-        add(text, () -> desk.inject(0, nodes - 1, nodes - 1, -1, 5));
-        return text.append(of(desk)).toString();
     }
 
     private static void add(StringBuilder text, Call call) {
